@@ -754,48 +754,33 @@ public final class NoonHat {
             while (at < length && (text[at] == 10 || text[at] == 32)) {
                 at++;
             }
-            to = at;
-            value = 0;
+            int first = at < length ? text[at] : NONE;
+            to = Math.min(at + 1, length);
+            kind = at < length ? SIGN : END;
+            value = first;
             word = Word.OTHER;
-            if (at >= length) {
-                kind = END;
-                return;
+            if (first >= 'a' && first <= 'z') {
+                kind = WORD;
+                while (to < length && text[to] >= 'a' && text[to] <= 'z') {
+                    to++;
+                }
+                value = 0;
+                for (int k = 0; k < LETTERS_MAX; k++) {
+                    value = 27 * value + (at + k < to ? text[at + k] - 'a' + 1 : 0);
+                }
+                for (int k = 0; k < Word.WORDS.length && to - at <= LETTERS_MAX; k++) {
+                    word = Word.WORDS[k].code == value ? Word.WORDS[k] : word;
+                }
+            } else if (first >= '0' && first <= '9') {
+                kind = NUMBER_TOKEN;
+                value = first - '0';
+                while (to < length && text[to] >= '0' && text[to] <= '9') {
+                    value = to - at < DIGITS_MAX ? 10 * value + text[to] - '0' : value;
+                    to++;
+                }
             }
-            if (text[at] >= 'a' && text[at] <= 'z') {
-                scanWord();
-            } else if (text[at] >= '0' && text[at] <= '9') {
-                scanNumber();
-            } else {
-                kind = SIGN;
-                value = text[at];
-                to = at + 1;
-            }
-            if (wasPlain && at == before && kind != SIGN) {
+            if (wasPlain && at == before && (kind == WORD || kind == NUMBER_TOKEN)) {
                 kind = GLUED;
-            }
-        }
-
-        private void scanWord() {
-            kind = WORD;
-            while (to < length && text[to] >= 'a' && text[to] <= 'z') {
-                to++;
-            }
-            if (to - at > LETTERS_MAX) {
-                return;
-            }
-            for (int k = 0; k < LETTERS_MAX; k++) {
-                value = 27 * value + (at + k < to ? text[at + k] - 'a' + 1 : 0);
-            }
-            for (int k = 0; k < Word.WORDS.length && word == Word.OTHER; k++) {
-                word = Word.WORDS[k].code == value ? Word.WORDS[k] : word;
-            }
-        }
-
-        private void scanNumber() {
-            kind = NUMBER_TOKEN;
-            while (to < length && text[to] >= '0' && text[to] <= '9') {
-                value = to - at < DIGITS_MAX ? 10 * value + text[to] - '0' : value;
-                to++;
             }
         }
 
@@ -1052,29 +1037,18 @@ public final class NoonHat {
                 return true;
             }
             if (scan.isSign('[')) {
-                if (!opens() || !test()) {
-                    return false;
-                }
-                return closes(']');
+                return opens() && test() && closes(']');
             }
             if (scan.isWord(Word.ALL)) {
                 scan.advance();
                 into.add(1);
                 return true;
             }
-            return comparison();
-        }
-
-        private boolean comparison() {
             if (!sum()) {
                 return false;
             }
-            int op = Formula.SAME;
-            if (scan.isSign('<')) {
-                op = Formula.BELOW;
-            } else if (scan.isSign('>')) {
-                op = Formula.ABOVE;
-            } else if (!scan.isSign('=')) {
+            int op = comparing();
+            if (op == NONE) {
                 return scan.refuse(1, scan.at);
             }
             scan.advance();
@@ -1083,6 +1057,16 @@ public final class NoonHat {
             }
             into.add(op);
             return true;
+        }
+
+        private int comparing() {
+            if (scan.isSign('<')) {
+                return Formula.BELOW;
+            }
+            if (scan.isSign('>')) {
+                return Formula.ABOVE;
+            }
+            return scan.isSign('=') ? Formula.SAME : NONE;
         }
 
         private boolean sum() {
@@ -1732,7 +1716,8 @@ public final class NoonHat {
             for (int way = 1; way < WAYS && far > 0; way++) {
                 int column = columns[p] + COLUMN_STEPS[way];
                 int row = rows[p] + ROW_STEPS[way];
-                if (farFromHat(column, row) < far && isFree(column, row)) {
+                boolean nearer = farFromHat(column, row) < far && square.within(column, row);
+                if (nearer && taken[SIDE * row + column] == 0) {
                     taken[SIDE * rows[p] + columns[p]] = 0;
                     columns[p] = column;
                     rows[p] = row;
@@ -1741,10 +1726,6 @@ public final class NoonHat {
                 }
             }
             return false;
-        }
-
-        private boolean isFree(int column, int row) {
-            return square.within(column, row) && taken[SIDE * row + column] == 0;
         }
 
         private int catcher() {
