@@ -1396,7 +1396,6 @@ public final class NoonHat {
         private boolean readThrow(int[] of) {
             of[WAY] = 0;
             of[FORCE] = 0;
-            of[WORE] = 0;
             into.start.people++;
             if (!scan.isWord(Word.SPIN)) {
                 return true;

@@ -3,6 +3,10 @@ public final class FaultTest {
     private static final Check CHECK = new Check("FaultTest");
     private static final String HEAD = "square 4 by 5 tower 1 2 high 3;";
 
+    private static final String[] OWN_WORDS = ("square by tower high law person at tall pace does spin force wall winds "
+            + "may gust noon height wore terms column row gets number or and not all min max").split(" ");
+    private static final String[] WORDS = (String.join(" ", OWN_WORDS) + " first last often total most least x").split(" ");
+
     private static String many(String part, int n) {
         StringBuilder out = new StringBuilder();
         for (int k = 0; k < n; k++) {
@@ -87,8 +91,7 @@ public final class FaultTest {
         bad(1, HEAD + "law ^A;");
         bad(1, HEAD + "law a^B;");
         bad(1, HEAD + "law^;");
-        for (String own : ("square by tower high law person at tall pace does spin force wall winds may gust noon "
-                + "height wore terms column row gets number or and not all min max").split(" ")) {
+        for (String own : OWN_WORDS) {
             bad(1, HEAD + "law ^" + own + ";");
             bad(1, HEAD + "law a; person ^" + own + " at 0 0;");
             bad(1, HEAD + "law a; person b at 0 0 tall 1 pace 1 does ^" + own + ";");
@@ -161,12 +164,19 @@ public final class FaultTest {
     private static void formulas() {
         good(2, HEAD + "winds noon+height*2-min(1,(3))/max(noon,1);");
         good(2, HEAD + "may tall<pace and wore>terms or not[noon=height or all]and all;");
-        for (String own : "tall pace wore terms column row number gets force spin all not x".split(" ")) {
-            bad(1, HEAD + "winds 1+^" + own + ";");
+        for (String word : WORDS) {
+            if (!" noon height min max ".contains(" " + word + " ")) {
+                bad(1, HEAD + "winds 1+^" + word + ";");
+            }
+            if (!" noon height min max tall pace wore terms ".contains(" " + word + " ")) {
+                bad(1, HEAD + "may 1<^" + word + ";");
+            }
+            if (!" noon min max tall pace wore terms column row number gets force spin ".contains(" " + word + " ")) {
+                badAsk(1, "total 1*^" + word);
+            }
         }
-        for (String own : "column row number gets force spin x min".split(" ")) {
-            bad(1, HEAD + "may 1<" + (own.equals("min") ? "min ^;" : "^" + own + ";"));
-        }
+        bad(1, HEAD + "winds min ^;");
+        bad(1, HEAD + "may 1<max ^;");
         bad(1, HEAD + "winds 1 ^< 2;");
         bad(1, HEAD + "winds ^[all];");
         bad(1, HEAD + "winds ^-1;");
@@ -234,6 +244,10 @@ public final class FaultTest {
         badAsk(4, "first not not not not not [ ^not all");
         badAsk(4, "first not not not not not [ 1 = ^spin");
         goodAsk(0, "first\nnot[not[all]]and 1=1 or all");
+        goodAsk(797, "total 1" + many("+1", 796));
+        goodAsk(-2, "total 1" + many("-min(1,1)", 3));
+        // six open, and at each something waits to be joined
+        goodAsk(0, "first all or not all and 1+2*min(1,1+2*min(1,1+2*min(1,1+2*min(1,1+2*min(1,1+2*3)))))=3 and 1<2");
     }
 
     public static void main(String[] args) {

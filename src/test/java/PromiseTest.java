@@ -763,6 +763,10 @@ public final class PromiseTest {
                 + "winds height*2-1;may height=0;");
         due("height of winds: 3, then 1", x.toss(0, 0, 2) * 10 + x.toss(0, 0, 3), 31);
         due("height of may: 0", x.toss(0, 0, 1), 2);
+        // may is asked of each person and height for himself: p not at 8, q at 0
+        x = Check.told("square 9 by 9 tower 4 4 high 9;law a;person p at 4 4 tall 9 pace 0 does a;"
+                + "person q at 4 5 tall 0 pace 0 does a;may tall<9;");
+        due("q gets it at height 0", x.toss(0, 0, 0) * 10 + x.toss(0, 0, 1), 19);
         // all come back behind a noon
         x = Check.told("square 9 by 9 tower 8 8 high 9;law a;person p at 0 0 tall 9 pace 2 does a;");
         due("got", x.noons(1), 1);
