@@ -1,6 +1,7 @@
 /** Counts the answers that are not as due, and puts texts on an object's tape. */
 final class Check {
     private final String name;
+    private String sentence = "";
     private int done = 0;
     private int wrong = 0;
 
@@ -8,12 +9,18 @@ final class Check {
         this.name = name;
     }
 
+    /** Names the sentence of the document that the answers from here on rest on. */
+    void sentence(String words) {
+        sentence = words;
+    }
+
     void due(String what, long got, long want) {
         done++;
         if (got != want) {
             wrong++;
             if (wrong <= 40) {
-                System.out.println(name + ": " + what + " answered " + got + ", due is " + want);
+                String why = sentence.isEmpty() ? "" : " (\"" + sentence + "\")";
+                System.out.println(name + ": " + what + " answered " + got + ", due is " + want + why);
             }
         }
     }
@@ -27,6 +34,60 @@ final class Check {
         if (wrong != 0) {
             System.exit(1);
         }
+    }
+
+    /** The text, with a ^ ahead of the place that is due and not in it, is refused as a square. */
+    void bad(int fault, String marked) {
+        NoonHat x = new NoonHat();
+        due("square " + marked, square(x, marked.replace("^", "")), NoonHat.NONE);
+        due("fault of " + marked, x.fault(0), fault);
+        due("place of " + marked, x.fault(1), marked.indexOf('^'));
+        due("refused of " + marked, x.status(1), 1);
+        due("columns of " + marked, x.has(0), 0);
+    }
+
+    void good(int statements, String text) {
+        NoonHat x = new NoonHat();
+        due("square " + text, square(x, text), statements);
+        due("fault of " + text, x.fault(0), 0);
+        due("place of " + text, x.fault(1), NoonHat.NONE);
+        due("refused of " + text, x.status(1), 0);
+    }
+
+    /** The same of a question, asked of a square. */
+    void badAsk(String square, int fault, String marked) {
+        NoonHat x = told(square);
+        due("ask " + marked, ask(x, marked.replace("^", "")), NoonHat.NOTHING);
+        due("fault of " + marked, x.fault(0), fault);
+        due("place of " + marked, x.fault(1), marked.indexOf('^'));
+    }
+
+    void goodAsk(String square, long answer, String text) {
+        NoonHat x = told(square);
+        due("ask " + text, ask(x, text), answer);
+        due("fault of " + text, x.fault(0), 0);
+        due("place of " + text, x.fault(1), NoonHat.NONE);
+    }
+
+    /** A text n times over, with # a letter of its own each time, @ and % a column and a row of four columns. */
+    static String many(String part, int n) {
+        StringBuilder out = new StringBuilder();
+        for (int k = 0; k < n; k++) {
+            out.append(part.replace("#", String.valueOf((char) ('a' + k % 26))).replace("@", String.valueOf(k % 4))
+                    .replace("%", String.valueOf(k / 4)));
+        }
+        return out.toString();
+    }
+
+    /** Bytes and behind them the one that ends an image. */
+    static int[] sealed(int... bytes) {
+        int[] out = java.util.Arrays.copyOf(bytes, bytes.length + 1);
+        int seal = 47;
+        for (int one : bytes) {
+            seal = (3 * seal + one) % 251;
+        }
+        out[bytes.length] = seal;
+        return out;
     }
 
     static int[] bytesOf(String text) {

@@ -7,45 +7,26 @@ public final class FaultTest {
             + "may gust noon height wore terms column row gets number or and not all min max").split(" ");
     private static final String[] WORDS = (String.join(" ", OWN_WORDS) + " first last often total most least x").split(" ");
 
+    private static final String ONE = HEAD + "law l; person p at 0 0 tall 1 pace 1 does l;";
+
     private static String many(String part, int n) {
-        StringBuilder out = new StringBuilder();
-        for (int k = 0; k < n; k++) {
-            out.append(part.replace("#", String.valueOf((char) ('a' + k % 26))).replace("@", String.valueOf(k % 4))
-                    .replace("%", String.valueOf(k / 4)));
-        }
-        return out.toString();
+        return Check.many(part, n);
     }
 
     private static void bad(int fault, String marked) {
-        int place = marked.indexOf('^');
-        String text = marked.replace("^", "");
-        NoonHat x = new NoonHat();
-        CHECK.due("square " + marked, Check.square(x, text), NoonHat.NONE);
-        CHECK.due("fault of " + marked, x.fault(0), fault);
-        CHECK.due("place of " + marked, x.fault(1), place);
-        CHECK.due("refused of " + marked, x.status(1), 1);
-        CHECK.due("columns of " + marked, x.has(0), 0);
+        CHECK.bad(fault, marked);
     }
 
     private static void good(int statements, String text) {
-        NoonHat x = new NoonHat();
-        CHECK.due("square " + text, Check.square(x, text), statements);
-        CHECK.due("fault of " + text, x.fault(0), 0);
-        CHECK.due("place of " + text, x.fault(1), NoonHat.NONE);
+        CHECK.good(statements, text);
     }
 
     private static void badAsk(int fault, String marked) {
-        int place = marked.indexOf('^');
-        NoonHat x = Check.told(HEAD + "law l; person p at 0 0 tall 1 pace 1 does l;");
-        CHECK.due("ask " + marked, Check.ask(x, marked.replace("^", "")), NoonHat.NOTHING);
-        CHECK.due("fault of " + marked, x.fault(0), fault);
-        CHECK.due("place of " + marked, x.fault(1), place);
+        CHECK.badAsk(ONE, fault, marked);
     }
 
     private static void goodAsk(long answer, String text) {
-        NoonHat x = Check.told(HEAD + "law l; person p at 0 0 tall 1 pace 1 does l;");
-        CHECK.due("ask " + text, Check.ask(x, text), answer);
-        CHECK.due("fault of " + text, x.fault(0), 0);
+        CHECK.goodAsk(ONE, answer, text);
     }
 
     private static void squares() {

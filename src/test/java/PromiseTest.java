@@ -641,15 +641,8 @@ public final class PromiseTest {
         due("27: without a square the tape goes", y.feed(0, 0, 0, 0, 0), 20);
     }
 
-    /** Bytes and behind them what seals them. */
     private static int[] sealed(int... bytes) {
-        int[] out = java.util.Arrays.copyOf(bytes, bytes.length + 1);
-        int seal = 47;
-        for (int one : bytes) {
-            seal = (3 * seal + one) % 251;
-        }
-        out[bytes.length] = seal;
-        return out;
+        return Check.sealed(bytes);
     }
 
     private static void duePicture(String what, NoonHat x, int... want) {
