@@ -140,6 +140,23 @@ final class Check {
         return bytes;
     }
 
+    /** Brings an object to a noon by an image; the people stay where they are, all having worn it so often. */
+    static NoonHat at(NoonHat x, int noon, int wearer, int terms, int wore) {
+        int[] bytes = java.util.Arrays.copyOf(picture(x), 4 + 6 * x.has(3));
+        bytes[0] = noon / 256;
+        bytes[1] = noon % 256;
+        bytes[2] = wearer + 1;
+        bytes[3] = terms;
+        for (int p = 0; p < x.has(3); p++) {
+            bytes[8 + 6 * p] = wore / 256;
+            bytes[9 + 6 * p] = wore % 256;
+        }
+        if (!on(x, sealed(bytes))) {
+            throw new IllegalStateException("no image of noon " + noon);
+        }
+        return x;
+    }
+
     static NoonHat told(String text) {
         NoonHat x = new NoonHat();
         if (square(x, text) == NoonHat.NONE) {

@@ -511,7 +511,7 @@ public final class EdgeTextTest {
         good(HEAD + "may " + many("[all] or ", 20) + "[all];");
         good(HEAD + "winds " + many("(1)+min(1,2)*", 20) + "(1);");
         good(HEAD + "may not [not [not not all] and [not not not all]] and not [not [not not all]];");
-        bad(4, HEAD + "may not [not [not not all] and [not not ^not all]]");
+        bad(4, HEAD + "may not [not [not not all] and [not not not ^not all]");
         good(HEAD + "may not not not not not not all and not not not not not not all;");
         bad(4, HEAD + "may not not not not not not all and not not not not not not ^not all;");
         good(HEAD + "may not not not not not (1)=1 and (1)=1;");
