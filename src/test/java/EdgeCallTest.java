@@ -619,8 +619,8 @@ public final class EdgeCallTest {
         CHECK.goodAsk(ALONE, 20, "total " + "spin 0+".repeat(19) + "spin 0");
         CHECK.goodAsk(ALONE, 0, "total spin spin spin spin spin spin 0*spin spin spin spin spin spin 0");
         CHECK.goodAsk(ALONE, 1, "total min(spin spin spin spin spin 1,(spin spin spin spin 0))+1-0*(1)");
-        CHECK.goodAsk(ALONE, 0, "first not not [not [spin (1)=1]]");
-        CHECK.badAsk(SIX, 4, "first not not [not [spin (^(1))=1]]");
+        CHECK.goodAsk(ALONE, 0, "first not not [not [spin 1=1]]");
+        CHECK.badAsk(SIX, 4, "first not not [not [spin ^(1)=1]]");
         CHECK.goodAsk(ALONE, 0, "first not not not not not (1)=spin 1+spin 1");
         CHECK.badAsk(SIX, 4, "first not not not not not (1)=spin 1+spin ^(1)");
         CHECK.badAsk(SIX, 4, "first not not not not not not 1=^spin 1");
