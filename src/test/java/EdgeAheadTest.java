@@ -296,6 +296,20 @@ public final class EdgeAheadTest {
         }
     }
 
+    private static void laterOfOthers() {
+        CHECK.sentence("later: 0 who WEARS it (NONE), 1 terms, 2 the LAW in force (NONE)");
+        NoonHat x = Check.told(WIDE + "person q at 0 0 tall 1 pace 0 does a;person r at 0 8 tall 1 pace 0 does a;"
+                + "person p at 4 4 tall 1 pace 0 does b;may noon<3;");
+        int[][] due = {{-1, 0, -1}, {2, 1, 1}, {2, 2, 1}, {2, 3, 1}, {-1, 0, -1}};
+        for (int n = 0; n < due.length; n++) {
+            for (int what = 0; what <= 2; what++) {
+                due("later(" + n + ", " + what + ")", x.later(n, what), due[n][what]);
+            }
+        }
+        due("b of 5", x.lasts(1, 5), 3);
+        due("a of 5", x.lasts(0, 5), 0);
+    }
+
     private static void hatless() {
         CHECK.sentence("hatless: Behind how many NOONS AHEAD (1 and on) none WEARS it first; NONE when one always does");
         for (int bound : new int[] {0, 1, 2, 58, 59, 60, 61, 200}) {
@@ -345,6 +359,7 @@ public final class EdgeAheadTest {
         }
         for (int law : new int[] {0, 1, 2, 3, 6, 127, 128, 254, 255}) {
             boolean can = law < 2 || law == 255;
+            x = Check.told(ALONE);
             for (int at = 0; at < 3; at++) {
                 Check.see(x, 255);
                 int[] bytes = {0, 0, 0};
@@ -410,6 +425,17 @@ public final class EdgeAheadTest {
         due("always he", x.wears(0), 1);
         due("never b", x.wears(1), 0);
         due("never hatless", x.wears(2), 0);
+        CHECK.sentence("if in each it was any of the 33 THROWS by its wind");
+        for (int place = 0; place < 81; place++) {
+            x = Check.told(WIDE + "person p at " + place % 9 + " " + place / 9 + " tall 1 pace 0 does b;");
+            Check.see(x, 1, 255);
+            int near = 0;
+            for (int toss = 0; toss < 33; toss++) {
+                near += near(toss, place % 9, place / 9) ? 1 : 0;
+            }
+            due("he can at " + place, x.wears(0), near > 0 ? 1 : 0);
+            due("none can at " + place, x.wears(1), near < 33 ? 64 : 0);
+        }
         CHECK.sentence("asked: the NOON in which most can; of like ones the first; NONE when nothing is SEEN, or for others");
         dueAsked(text, new int[] {0}, 0, 4);
         dueAsked(text, new int[] {1, 0}, 1, 4);
@@ -500,6 +526,7 @@ public final class EdgeAheadTest {
         stands();
         change();
         later();
+        laterOfOthers();
         hatless();
         see();
         wears();

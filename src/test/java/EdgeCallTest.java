@@ -195,6 +195,38 @@ public final class EdgeCallTest {
         due("how often he wore it is new", Check.square(x, ALONE) == 4 && x.person(0, 7) == 0, true);
     }
 
+    /** Squares one behind the other on one object, refused ones between them: each is as on a new object. */
+    private static void squares() {
+        CHECK.sentence("Without one all is as at first: nothing stays of squares ahead of it");
+        String[] texts = {SIX + "winds 3;may tall<5;gust 100;", ALONE, NOBODY, "square 3 by 3 tower 2 2 high 9;law q;"
+            + "person r at 0 0 tall 9 pace 1 does q;", ALONE + "winds 7;may all;gust 100;wall 0 0;", SIX};
+        NoonHat x = new NoonHat();
+        for (int k = 0; k < 40; k++) {
+            String text = texts[(k * k + k / 3) % texts.length];
+            if (k % 5 == 3) {
+                due("refused", Check.square(x, texts[0] + "person x at 5 5 tall 1 pace 1 does z spin 7 force 3;wall"), -1);
+            }
+            NoonHat y = Check.told(text);
+            due("square", Check.square(x, text), text.chars().filter(c -> c == ';').count());
+            int[] now = {x.toss(2, 3, 0), x.toss(2, 3, 1), x.toss(2, 3, 2), x.toss(2, 3, 3), x.has(2), x.has(3), x.has(4), x.place(0, 0),
+                x.place(8, 0), x.person(0, 5), x.person(0, 6), x.person(0, 7)};
+            int[] due = {y.toss(2, 3, 0), y.toss(2, 3, 1), y.toss(2, 3, 2), y.toss(2, 3, 3), y.has(2), y.has(3), y.has(4), y.place(0, 0),
+                y.place(8, 0), y.person(0, 5), y.person(0, 6), y.person(0, 7)};
+            for (int one = 0; one < now.length; one++) {
+                due("row " + one + " behind " + k + " squares", now[one], due[one]);
+            }
+            x.seed(1);
+            due("gusts behind " + k + " squares", x.chance(3), y.chance(3));
+            x.noons(5);
+            y.noons(5);
+            due("who wears it behind " + k + " squares", x.has(6), y.has(6));
+            x = k % 7 == 6 ? new NoonHat() : x;
+        }
+        x = Check.told(SIX + "winds noon;may tall>pace;");
+        due("the third with winds and may", Check.square(x, ALONE), 4);
+        due("the third with winds and may", Check.square(x, ALONE + "winds noon;may all;"), 6);
+    }
+
     private static void fault() {
         CHECK.sentence("its FAULT (what 0; 0 without, and ahead of any), its place (1; NONE without). NONE for another what.");
         NoonHat x = new NoonHat();
@@ -261,6 +293,12 @@ public final class EdgeCallTest {
             due("kind " + wrong, x.letter(wrong, 0, 0), -1);
             due("which " + wrong, x.letter(0, wrong, 0), -1);
             due("k " + wrong, x.letter(1, 0, wrong), -1);
+        }
+        for (String name : new String[] {"azzzzz", "yzzzzz", "zaaaaa", "bazzzz", "aazaza"}) {
+            x = Check.told(NOBODY + "law " + name + ";");
+            for (int k = 0; k < 6; k++) {
+                due("letter " + k + " of " + name, x.letter(0, 0, k), name.charAt(k) - 'a' + 1);
+            }
         }
         String letters = "abcdefghijklmnopqrstuvwxyz";
         for (int at = 0; at < 24; at += 6) {
@@ -536,6 +574,27 @@ public final class EdgeCallTest {
         CHECK.goodAsk("square 9 by 9 tower 0 0 high 1;law a;person p at 8 8 tall 0 pace 0 does a;", 0, "most gets");
     }
 
+    /** Many questions of one object: none hangs on those ahead of it. */
+    private static void asksAgain() {
+        CHECK.sentence("The tape is a QUESTION: its answer, whatever was asked ahead of it");
+        String square = "square 9 by 9 tower 4 4 high 1;law a;person p at 4 4 tall 1 pace 0 does a;"
+                + "person q at 8 8 tall 1 pace 0 does a;";
+        NoonHat x = Check.told(square);
+        String[] texts = {"most gets", "total gets", "first 1=2", "often gets=gets", "total ((1+2)*3)", "least gets", "most tall",
+            "first gets=1"};
+        int[] due = {17, 18, -1, 2, 18, 1, 1, 1};
+        for (int k = 0; k < 64; k++) {
+            due("question " + k + ", " + texts[k % 8], Check.ask(x, texts[k % 8]), due[k % 8]);
+        }
+        x = Check.told(square);
+        String wide = "total 1" + "+1".repeat(790);
+        due("a wide one", Check.ask(x, wide), 2 * 791);
+        due("a wide one again", Check.ask(x, wide), 2 * 791);
+        due("a wide product", Check.ask(x, "most 1" + "*1".repeat(796)), 1);
+        due("a wide test", Check.ask(x, "first 1=2" + " or 1=2".repeat(220) + " or all"), 0);
+        due("another", Check.ask(x, "first all" + " and all".repeat(190) + " and 1=2"), -1);
+    }
+
     private static void askNow() {
         CHECK.sentence("how often he WORE it; how many NOONS one after the other up to now he WORE it; The NOON");
         NoonHat x = Check.at(Check.told(SIX), 999, 3, 99, 999);
@@ -637,11 +696,11 @@ public final class EdgeCallTest {
                 NoonHat x = Check.at(Check.told(SIX), number, who, terms, 999 - number);
                 due("image()", x.image(), 41);
                 int[] due = {number / 256, number % 256, who + 1, terms};
+                int[][] people = {{0, 0, 0, 0}, {1, 0, 1, 1}, {2, 0, 2, 2}, {3, 1, 3, 3}, {4, 1, 4, 0}, {8, 6, 8, 3}};
                 int seal = 47;
                 for (int k = 0; k < 40; k++) {
-                    int p = (k - 4) / 6;
-                    int it = k < 4 ? due[k] : new int[] {x.person(p, 0), x.person(p, 1), x.person(p, 5), x.person(p, 6),
-                        (999 - number) / 256, (999 - number) % 256}[(k - 4) % 6];
+                    int at = (k - 4) % 6;
+                    int it = k < 4 ? due[k] : at < 4 ? people[(k - 4) / 6][at] : at == 4 ? (999 - number) / 256 : (999 - number) % 256;
                     due("octet(" + k + ")", x.octet(k), it);
                     seal = (3 * seal + it) % 251;
                 }
@@ -864,6 +923,7 @@ public final class EdgeCallTest {
         feed();
         end();
         square();
+        squares();
         fault();
         has();
         letter();
@@ -874,6 +934,7 @@ public final class EdgeCallTest {
         undo();
         seed();
         asks();
+        asksAgain();
         askNow();
         askFaults();
         image();

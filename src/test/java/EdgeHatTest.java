@@ -279,6 +279,7 @@ public final class EdgeHatTest {
         String two = person("p", 4, 4, 3, 1) + person("q", 3, 3, 2, 2);
         NoonHat x = Check.told(WIDE.replace("high 1", "high 5") + two + "may height=0;");
         due("height behind the beat", x.toss(0, 0, 1), 5);
+        due("height behind the beat", x.toss(0, 0, 0), 0);
         due("tall", Check.told(WIDE + two + "may tall=2;").toss(0, 0, 0), 1);
         due("pace", Check.told(WIDE + two + "may pace=2;").toss(0, 0, 0), 1);
         due("pace", Check.told(WIDE + two + "may pace=1;").toss(0, 0, 0), 0);
@@ -298,6 +299,24 @@ public final class EdgeHatTest {
             x.noons(1);
             due("noon " + noon, x.has(6), (noon + 1) % 2);
         }
+    }
+
+    private static void mayOfEach() {
+        CHECK.sentence("the TEST of may holds for him: of each for himself, at each height");
+        String text = "square 3 by 3 tower 1 1 high 9;law a;";
+        for (int p = 0; p < 6; p++) {
+            text += person("x" + (char) ('a' + p), p % 3, p / 3, 4 + p, 0);
+        }
+        for (int p = 0; p < 6; p++) {
+            for (int height = 0; height <= 8; height++) {
+                NoonHat x = Check.told(text + "may tall*10+height=" + (10 * (4 + p) + height) + ";");
+                boolean can = 4 + p >= height;
+                due("tall " + (4 + p) + " at height " + height, x.toss(0, 0, 0), can ? p : -1);
+                due("tall " + (4 + p) + " at height " + height + ": beat", x.toss(0, 0, 1), can ? 9 - height : 9);
+            }
+        }
+        due("all of them", Check.told(text).toss(0, 0, 0), 5);
+        due("the tallest of the last", Check.told(text + "may height=8;").toss(0, 0, 0), 5);
     }
 
     // ---- noons
@@ -396,6 +415,13 @@ public final class EdgeHatTest {
             due("one more by chance of " + n, x.has(9), Math.min(40, n + 1));
             due("the latest of " + n, x.kept(x.has(9) - 1, 0), n);
         }
+        NoonHat x = Check.told(text);
+        for (int k = 0; k < 10; k++) {
+            x.noons(k < 9 ? 100 : 99);
+            due("told of many", x.has(9), 40);
+            due("the latest of many", x.kept(39, 0), k < 9 ? 100 * k + 99 : 998);
+            due("the oldest of many", x.kept(0, 0), k < 9 ? 100 * k + 60 : 959);
+        }
         due("beat 1", keptBeat(1), 1);
         due("beat 9", keptBeat(9), 9);
     }
@@ -490,6 +516,7 @@ public final class EdgeHatTest {
         taken();
         tallestNearestFirst();
         mayWords();
+        mayOfEach();
         noon();
         most();
         kept();

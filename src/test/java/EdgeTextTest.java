@@ -303,10 +303,16 @@ public final class EdgeTextTest {
         good(text.replace("~", "\n"));
         good("\n \n" + text.replace("~", " \n "));
         good(text.replaceAll("~([;\\[\\]()<,+])", "$1").replaceAll("([;\\[\\]()<,+])~", "$1").replace("~", " "));
-        for (int blank : new int[] {0, 9, 11, 12, 13, 31, 33, 95, 127, 160, 255}) {
+        for (int blank : new int[] {0, 9, 11, 12, 13, 31, 33, 47, 58, 64, 65, 90, 95, 96, 123, 127, 138, 160, 255}) {
             bad(1, "square^" + (char) blank + "2 by 2 tower 0 0 high 1;");
+            bad(1, "square 2^" + (char) blank + "by 2 tower 0 0 high 1;");
+            bad(1, "square ^" + (char) blank + "2 by 2 tower 0 0 high 1;");
+            bad(1, "square 2 ^" + (char) blank + "by 2 tower 0 0 high 1;");
             bad(1, "^" + (char) blank + "square 2 by 2 tower 0 0 high 1;");
             bad(1, HEAD + "^" + (char) blank);
+            bad(1, HEAD + "law ^" + (char) blank + ";");
+            bad(1, HEAD + "law a^" + (char) blank + ";");
+            bad(1, HEAD + "gust 1^" + (char) blank + ";");
         }
         CHECK.sentence("words and numbers side by side need one");
         bad(1, "square^2 by 2 tower 0 0 high 1;");
@@ -319,6 +325,40 @@ public final class EdgeTextTest {
     }
 
     // ---- formulas
+
+    /** Each word of the language as a PART: it is one just where the document lists it. */
+    private static void parts() {
+        CHECK.sentence("PART: N; noon; height; .. in may: tall; pace; wore; terms");
+        for (String word : OWN_WORDS) {
+            boolean inWinds = List.of("noon", "height").contains(word);
+            boolean inMay = inWinds || List.of("tall", "pace", "wore", "terms").contains(word);
+            boolean opens = List.of("min", "max").contains(word);
+            String call = opens ? word + "(1,2)" : word;
+            if (inWinds || opens) {
+                good(HEAD + "winds " + call + ";");
+            } else {
+                bad(1, HEAD + "winds ^" + call + ";");
+            }
+            if (inMay || opens) {
+                good(HEAD + "may 1<" + call + ";");
+                good(HEAD + "may " + call + "=1;");
+            } else {
+                bad(1, HEAD + "may 1<^" + call + ";");
+            }
+        }
+        CHECK.sentence("PART: number; column; row; tall; pace; wore; terms; noon; force; gets; spin PART; ( SUM ) ; min ; max");
+        for (String word : OWN_WORDS) {
+            boolean is = List.of("number", "column", "row", "tall", "pace", "wore", "terms", "noon", "force", "gets").contains(word);
+            String call = List.of("min", "max").contains(word) ? word + "(1,1)" : word.equals("spin") ? "spin 0" : "";
+            if (is || !call.isEmpty()) {
+                due("fault of total " + word, faultOfAsk("total " + (is ? word : call)), 0);
+                due("fault of first " + word, faultOfAsk("first 1=" + (is ? word : call)), 0);
+            } else {
+                CHECK.badAsk(ONE, 1, "total ^" + word);
+                CHECK.badAsk(ONE, 1, "first 1=^" + word);
+            }
+        }
+    }
 
     private static void fact(String what, String test, boolean holds) {
         due("may " + what + test, Check.told("square 2 by 2 tower 0 0 high 1;law a;person p at 1 1 tall 9 pace 1 does a;may "
@@ -357,6 +397,16 @@ public final class EdgeTextTest {
         }
         fact("", "all", true);
         fact("", "not all", false);
+        String[][] kinds = {{"1<2", "2<1"}, {"2>1", "1>2"}, {"1=1", "1=2"}, {"all", "not all"}, {"not 2<1", "not 1<2"},
+            {"[2>1]", "[1>2]"}};
+        for (String[] a : kinds) {
+            for (String[] b : kinds) {
+                for (int k = 0; k < 4; k++) {
+                    fact("", a[k & 1] + " and " + b[k >> 1], k == 0);
+                    fact("", a[k & 1] + " or " + b[k >> 1], k != 3);
+                }
+            }
+        }
     }
 
     private static void sums() {
@@ -453,6 +503,51 @@ public final class EdgeTextTest {
         good(HEAD + " \n ");
     }
 
+    private static final String[] STATEMENTS = {"square 4 by 5 tower 1 2 high 3", "law b",
+        "person p at 0 0 tall 1 pace 1 does a spin 1 force 1", "wall 3 3", "gust 5", "winds 1 + noon * 2 - ( 3 ) / min ( 4 , 5 )",
+        "winds max ( 1 , 2 )", "may 1 < 2 and not all or [ tall > 3 ]", "may not [ not pace = 1 ]"};
+
+    /** Behind a text that ends too soon all goes on well: it is refused at what stands there all the same. */
+    private static void goesOnBehind() {
+        CHECK.sentence("1 the first byte with which no such text goes on: whatever stands behind it");
+        for (String statement : STATEMENTS) {
+            String[] words = statement.split(" ");
+            String text = statement.startsWith("square") ? "" : LAW;
+            for (int k = 0; k < words.length; k++) {
+                boolean whole = endsWell(statement, words, k);
+                if (k > 0 && whole) {
+                    good(text + ";law zz;");
+                } else if (k > 0) {
+                    bad(1, text + "^;law zz;");
+                }
+                if (k > 0 && !statement.startsWith("law")) {
+                    bad(1, text + "^law zz;");
+                }
+                text += words[k] + " ";
+            }
+            good(text + ";law zz;");
+            bad(1, text + "^law zz;");
+        }
+    }
+
+    /** Whether the first words of a statement are one as well. */
+    private static boolean endsWell(String statement, String[] words, int many) {
+        if (many == 0) {
+            return false;
+        }
+        String last = words[many - 1];
+        if (statement.startsWith("person")) {
+            return many == 11;
+        }
+        if (statement.startsWith("winds 1")) {
+            return many == 2 || many == 4 || many == 6 || last.equals(")");
+        }
+        if (statement.startsWith("may 1")) {
+            return many == 4 || last.equals("all");
+        }
+        return false;
+    }
+
     private static void rowsInstead() {
         CHECK.sentence("2 .. of a place that can't be the row, if its column is in the SQUARE");
         for (String head : new String[] {"square 4 by 5 tower ", LAW + "person p at ", HEAD + "wall "}) {
@@ -520,6 +615,13 @@ public final class EdgeTextTest {
         bad(4, HEAD + "may not not not not not (1)=(^(1))");
         good(HEAD + "may [not [not [not 1=1 and 1=1 or 1=1] or (((1)))=1] and ((((1))))=1];");
         good(HEAD + "may [not [not [not 1=1 and (1)=1]]];");
+        NoonHat x = Check.told(ONE);
+        for (int k = 0; k < 5; k++) {
+            Check.square(x, HEAD + "may " + "[".repeat(k) + "((((((1");
+            due("behind one that is refused", Check.square(x, HEAD + "may [[[[[[all]]]]]];"), 2);
+            Check.ask(x, "total " + "(".repeat(k) + "1");
+            due("behind a question with a fault", Check.ask(x, "total ((((((1))))))") == 0 && x.fault(0) == 0 ? 1 : 0, 1);
+        }
         bad(4, HEAD + "may [not [not [not ^((1)");
     }
 
@@ -550,10 +652,12 @@ public final class EdgeTextTest {
         names();
         unlikeNames();
         blanks();
+        parts();
         signs();
         sums();
         held();
         wholeWords();
+        goesOnBehind();
         rowsInstead();
         openAtOnce();
         openNoMore();
