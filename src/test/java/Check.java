@@ -1,3 +1,5 @@
+import java.util.Arrays;
+
 /** Counts the answers that are not as due, and puts texts on an object's tape. */
 final class Check {
     private final String name;
@@ -81,7 +83,7 @@ final class Check {
 
     /** Bytes and behind them the one that ends an image. */
     static int[] sealed(int... bytes) {
-        int[] out = java.util.Arrays.copyOf(bytes, bytes.length + 1);
+        int[] out = Arrays.copyOf(bytes, bytes.length + 1);
         int seal = 47;
         for (int one : bytes) {
             seal = (3 * seal + one) % 251;
@@ -142,7 +144,7 @@ final class Check {
 
     /** Brings an object to a noon by an image; the people stay where they are, all having worn it so often. */
     static NoonHat at(NoonHat x, int noon, int wearer, int terms, int wore) {
-        int[] bytes = java.util.Arrays.copyOf(picture(x), 4 + 6 * x.has(3));
+        int[] bytes = Arrays.copyOf(picture(x), 4 + 6 * x.has(3));
         bytes[0] = noon / 256;
         bytes[1] = noon % 256;
         bytes[2] = wearer + 1;

@@ -1,3 +1,5 @@
+import java.util.Arrays;
+
 /**
  * Both sides of each boundary that the document's part III names, with promises 11 to 20: throws, where to stand,
  * the least change, noons ahead, who wore it. What is due is worked out here by the sentence alone.
@@ -117,9 +119,10 @@ public final class EdgeAheadTest {
         stand("a row of walls", two + "wall 0 0;wall 1 0;" + p, 0, 0, 1, 0);
         stand("another's", two + "person q at 0 0 tall 1 pace 0 does a;" + p, 1, 1, 0, 0);
         stand("his own", two + "person q at 0 0 tall 1 pace 0 does a;" + p, 0, 0, 0, 0);
-        stand("all but his", "square 2 by 2 tower 1 1 high 1;law a;wall 0 0;wall 1 0;wall 0 1;" + p.replace("1 2", "1 1"), 0, 1, 1, 0);
-        stand("the last place, where all come", "square 4 by 4 tower 3 3 high 2;law a;person p at 0 0 tall 0 pace 0 does a;winds 4;",
-                0, 2, 2, 33);
+        String narrow = "square 2 by 2 tower 1 1 high 1;law a;wall 0 0;wall 1 0;wall 0 1;";
+        stand("all but his", narrow + p.replace("1 2", "1 1"), 0, 1, 1, 0);
+        String drifting = "square 4 by 4 tower 3 3 high 2;law a;person p at 0 0 tall 0 pace 0 does a;winds 4;";
+        stand("where all come", drifting, 0, 2, 2, 33);
         CHECK.sentence("STAND is the place of the SQUARE from which a PERSON would GET most of them");
         // a place gets what comes down next to it: the greatest count of all places that are free, the first of like ones
         String[] walls = {"", "wall 3 3;", "wall 3 3;wall 4 3;wall 5 3;", "wall 3 4;wall 5 5;wall 4 5;wall 3 5;"};
@@ -197,8 +200,8 @@ public final class EdgeAheadTest {
     }
 
     private static void change() {
-        CHECK.sentence("CHANGED: by how many WAYS round (0 is 1 from all others; 1 .. 8 the shorter way round) and how much force, "
-                + "as told, it is off together; of like ones the first THROW");
+        CHECK.sentence("CHANGED: by how many WAYS round (0 is 1 from all others; 1 .. 8 the shorter way round) "
+                + "and how much force, as told, it is off together; of like ones the first THROW");
         String text = WIDE + "person p at 8 8 tall 1 pace 0 does a;person q at 0 0 tall 0 pace 0 does b;";
         for (int place = 1; place < 81; place++) {
             NoonHat x = Check.at(Check.told(text), 5, 1, 1, 0);
@@ -404,7 +407,8 @@ public final class EdgeAheadTest {
             }
         }
         due("without a square", new NoonHat().wears(0), -1);
-        CHECK.sentence("wears: who can WEAR it, as bits of PEOPLE; 64: it can be HATLESS, where 255 is SEEN; 0: it cannot be as SEEN");
+        CHECK.sentence("wears: who can WEAR it, as bits of PEOPLE; 64: it can be HATLESS, where 255 is SEEN; "
+                + "0: it cannot be as SEEN");
         String head = "square 9 by 9 tower 4 4 high 1;law a;law b;law c;";
         int[][] places = {{1, 1}, {4, 1}, {7, 1}, {1, 4}, {7, 4}, {1, 7}};
         String text = head;
@@ -454,8 +458,8 @@ public final class EdgeAheadTest {
     private static void dueAsked(String text, int[] seen, int noon, int many) {
         NoonHat x = Check.told(text);
         Check.see(x, seen);
-        due("asked(0) of " + java.util.Arrays.toString(seen), x.asked(0), noon);
-        due("asked(1) of " + java.util.Arrays.toString(seen), x.asked(1), many);
+        due("asked(0) of " + Arrays.toString(seen), x.asked(0), noon);
+        due("asked(1) of " + Arrays.toString(seen), x.asked(1), many);
         due("asked(2)", x.asked(2), -1);
         for (int wrong : WRONG) {
             due("asked(" + wrong + ")", x.asked(wrong), -1);
@@ -473,16 +477,13 @@ public final class EdgeAheadTest {
             }
             x.noons(1);
         }
-        // with winds 3 behind noon 2 it drifts one place further from him
-        x = Check.told("square 9 by 2 tower 4 0 high 1;law a;person p at 1 0 tall 1 pace 0 does a;winds max(noon-1,0)*3-max(noon-2,0)*3;");
-        Check.see(x, 0, 0, 0, 0);
-        for (int k = 0; k < 4; k++) {
-            due("wears(" + k + ") by its wind", x.wears(k), 1);
-        }
-        Check.square(x, "square 9 by 2 tower 4 0 high 1;law a;person p at 0 0 tall 1 pace 0 does a;winds min(noon,1)*3;");
-        Check.see(x, 0, 0);
-        due("force 3 comes to 1 0", x.wears(0), 1);
-        due("and drifts to 2 0", x.wears(1), 0);
+        x = Check.told("square 9 by 2 tower 4 0 high 1;law a;person p at 0 0 tall 1 pace 0 does a;winds noon/2*3;");
+        Check.see(x, 0, 0, 0);
+        due("by force 3 it comes to 1 0", x.wears(0), 1);
+        due("by force 3 it comes to 1 0", x.wears(1), 1);
+        due("and drifts to 2 0 at noon 2", x.wears(2), 0);
+        x.noons(1);
+        due("noon 2 is the next but one no more", x.wears(1), 0);
         CHECK.sentence("PEOPLE, WORE, terms as they are now");
         x = Check.told(ALONE + "may wore<2;");
         Check.see(x, 0, 0, 0);

@@ -1,3 +1,5 @@
+import java.util.Arrays;
+
 /**
  * Both sides of each boundary of promises 1 to 10 and 21 to 31 with the document's part IV: the tape, what is told,
  * acts, questions, images, refusals, and what stays when a call is refused.
@@ -9,7 +11,8 @@ public final class EdgeCallTest {
     private static final String ALONE = "square 9 by 9 tower 4 4 high 1;law a;law b;person p at 4 4 tall 1 pace 0 does a;";
     private static final String SIX = "square 9 by 7 tower 4 3 high 2;law z;law abcdef;"
             + "person a at 0 0 tall 0 pace 0 does z;person bc at 1 0 tall 1 pace 1 does abcdef spin 1 force 1;"
-            + "person def at 2 0 tall 3 pace 2 does z spin 2 force 2;person ghij at 3 1 tall 5 pace 0 does abcdef spin 3 force 3;"
+            + "person def at 2 0 tall 3 pace 2 does z spin 2 force 2;"
+            + "person ghij at 3 1 tall 5 pace 0 does abcdef spin 3 force 3;"
             + "person klmno at 4 1 tall 7 pace 1 does z spin 4 force 0;"
             + "person pqrstu at 8 6 tall 9 pace 2 does abcdef spin 8 force 3;wall 0 6;wall 8 0;";
 
@@ -157,7 +160,8 @@ public final class EdgeCallTest {
         CHECK.sentence("NONE, refused (1), with a FAULT (all else stays); the tape goes, refused or not");
         NoonHat x = lived(ALONE);
         String before = all(x);
-        due("refused", Check.square(x, "square 2 by 2 tower 0 0 high 1;law b;person q at 0 0 tall 1 pace 1 does b;wall 1 1;gust"), -1);
+        String late = "square 2 by 2 tower 0 0 high 1;law b;person q at 0 0 tall 1 pace 1 does b;wall 1 1;gust";
+        due("refused", Check.square(x, late), -1);
         same("a refused square", before, x);
         due("the tape went", x.feed(0, 0, 0, 0, 0), 20);
         due("refused (1)", x.status(1), 1);
@@ -195,23 +199,27 @@ public final class EdgeCallTest {
         due("how often he wore it is new", Check.square(x, ALONE) == 4 && x.person(0, 7) == 0, true);
     }
 
+    private static int[] some(NoonHat x) {
+        return new int[] {x.toss(2, 3, 0), x.toss(2, 3, 1), x.toss(2, 3, 2), x.toss(2, 3, 3), x.has(2), x.has(3), x.has(4),
+            x.place(0, 0), x.place(8, 0), x.person(0, 5), x.person(0, 6), x.person(0, 7)};
+    }
+
     /** Squares one behind the other on one object, refused ones between them: each is as on a new object. */
     private static void squares() {
         CHECK.sentence("Without one all is as at first: nothing stays of squares ahead of it");
-        String[] texts = {SIX + "winds 3;may tall<5;gust 100;", ALONE, NOBODY, "square 3 by 3 tower 2 2 high 9;law q;"
-            + "person r at 0 0 tall 9 pace 1 does q;", ALONE + "winds 7;may all;gust 100;wall 0 0;", SIX};
+        String spun = ALONE.replace("does a;", "does a spin 7 force 3;");
+        String[] texts = {SIX + "winds 3;may tall<5;gust 100;", spun, NOBODY, "square 3 by 3 tower 2 2 high 9;law q;"
+            + "person r at 0 0 tall 9 pace 1 does q;", ALONE + "winds 7;may all;gust 100;wall 0 0;", SIX, spun, ALONE};
         NoonHat x = new NoonHat();
         for (int k = 0; k < 40; k++) {
-            String text = texts[(k * k + k / 3) % texts.length];
+            String text = texts[(3 * k + k / 5) % texts.length];
             if (k % 5 == 3) {
-                due("refused", Check.square(x, texts[0] + "person x at 5 5 tall 1 pace 1 does z spin 7 force 3;wall"), -1);
+                due("refused", Check.square(x, spun + "winds 7;may not all;gust 100;wall 8 0;wall 0 0;wall"), -1);
             }
             NoonHat y = Check.told(text);
             due("square", Check.square(x, text), text.chars().filter(c -> c == ';').count());
-            int[] now = {x.toss(2, 3, 0), x.toss(2, 3, 1), x.toss(2, 3, 2), x.toss(2, 3, 3), x.has(2), x.has(3), x.has(4), x.place(0, 0),
-                x.place(8, 0), x.person(0, 5), x.person(0, 6), x.person(0, 7)};
-            int[] due = {y.toss(2, 3, 0), y.toss(2, 3, 1), y.toss(2, 3, 2), y.toss(2, 3, 3), y.has(2), y.has(3), y.has(4), y.place(0, 0),
-                y.place(8, 0), y.person(0, 5), y.person(0, 6), y.person(0, 7)};
+            int[] now = some(x);
+            int[] due = some(y);
             for (int one = 0; one < now.length; one++) {
                 due("row " + one + " behind " + k + " squares", now[one], due[one]);
             }
@@ -276,7 +284,8 @@ public final class EdgeCallTest {
     }
 
     private static void letter() {
-        CHECK.sentence("Letter k (0 .. 5) of the NAME of a LAW (kind 0), a PERSON (1): 1 .. 26; 0 behind it; NONE when there is none such");
+        CHECK.sentence("Letter k (0 .. 5) of the NAME of a LAW (kind 0), a PERSON (1): 1 .. 26; 0 behind it; "
+                + "NONE when there is none such");
         NoonHat x = Check.told(SIX);
         String[][] names = {{"z", "abcdef"}, {"a", "bc", "def", "ghij", "klmno", "pqrstu"}};
         for (int kind = -1; kind <= 2; kind++) {
@@ -365,7 +374,8 @@ public final class EdgeCallTest {
             due("no act", x.has(11), 0);
         }
         same("refused moves", all(Check.told(SIX)), x);
-        for (int[] can : new int[][] {{0, 0, 1}, {5, 8, 5}, {5, 8, 6}, {0, 8, 1}, {0, 1, 6}, {0, 7, 0}, {1, 0, 0}, {2, 4, 3}, {2, 2, 0}}) {
+        for (int[] can : new int[][] {{0, 0, 1}, {5, 8, 5}, {5, 8, 6}, {0, 8, 1}, {0, 1, 6}, {0, 7, 0}, {1, 0, 0},
+            {2, 4, 3}, {2, 2, 0}}) {
             due("move(" + can[0] + ", " + can[1] + ", " + can[2] + ")", x.move(can[0], can[1], can[2]), true);
             due("there", x.place(can[1], can[2]), can[0]);
         }
@@ -387,7 +397,8 @@ public final class EdgeCallTest {
             due("no act", x.has(11), 0);
         }
         same("refused throws", all(Check.told(SIX)), x);
-        for (int[] can : new int[][] {{0, 0, 1}, {0, 0, 3}, {0, 8, 3}, {0, 8, 0}, {0, 1, 0}, {1, 1, 0}, {5, 8, 2}, {5, 7, 2}, {5, 0, 0}}) {
+        for (int[] can : new int[][] {{0, 0, 1}, {0, 0, 3}, {0, 8, 3}, {0, 8, 0}, {0, 1, 0}, {1, 1, 0}, {5, 8, 2},
+            {5, 7, 2}, {5, 0, 0}}) {
             due("train(" + can[0] + ", " + can[1] + ", " + can[2] + ")", x.train(can[0], can[1], can[2]), true);
             due("way", x.person(can[0], 5), can[1]);
             due("force", x.person(can[0], 6), can[2]);
@@ -454,7 +465,7 @@ public final class EdgeCallTest {
             due("refused", x.status(4), 2);
             int[] a = Check.picture(x);
             int[] b = Check.picture(then);
-            due("all is as behind the first " + (acts - 20), java.util.Arrays.equals(a, b), true);
+            due("all is as behind the first " + (acts - 20), Arrays.equals(a, b), true);
             due("what is kept, too", x.has(9), then.has(9));
             x.noons(1);
             due("an act again", x.has(11), 1);
@@ -658,7 +669,8 @@ public final class EdgeCallTest {
             CHECK.badAsk(SIX, 1, "^" + kind + "x 1");
             CHECK.goodAsk(ALONE, 7, "\n" + kind + " 7 ");
         }
-        for (String word : new String[] {"height", "x", "talls", "columnx", "abcdefgh", "spins", "square", "law", "first", "most", "a", "p"}) {
+        for (String word : new String[] {"height", "x", "talls", "columnx", "abcdefgh", "spins", "square", "law", "first",
+            "most", "a", "p"}) {
             CHECK.badAsk(SIX, 1, "total ^" + word);
             CHECK.badAsk(SIX, 1, "first 1+^" + word + "=1");
             CHECK.badAsk(SIX, 1, "^" + word + "z 1");
@@ -688,8 +700,8 @@ public final class EdgeCallTest {
     // ---- promises 28 to 31
 
     private static void image() {
-        CHECK.sentence("AN IMAGE: NOON (two bytes, the higher first), who WEARS it and 1 (0: HATLESS), terms; WORE (two bytes); "
-                + "last a byte: all ahead from 47 on, c = (3 c + it) mod 251");
+        CHECK.sentence("AN IMAGE: NOON (two bytes, the higher first), who WEARS it and 1 (0: HATLESS), terms; "
+                + "WORE (two bytes); last a byte: all ahead from 47 on, c = (3 c + it) mod 251");
         for (int number : new int[] {0, 1, 255, 256, 257, 511, 512, 767, 768, 998, 999}) {
             for (int who = -1; who < 6; who++) {
                 int terms = who < 0 ? 0 : number % 99 + 1;
@@ -700,7 +712,8 @@ public final class EdgeCallTest {
                 int seal = 47;
                 for (int k = 0; k < 40; k++) {
                     int at = (k - 4) % 6;
-                    int it = k < 4 ? due[k] : at < 4 ? people[(k - 4) / 6][at] : at == 4 ? (999 - number) / 256 : (999 - number) % 256;
+                    int wore = at == 4 ? (999 - number) / 256 : (999 - number) % 256;
+                    int it = k < 4 ? due[k] : at < 4 ? people[(k - 4) / 6][at] : wore;
                     due("octet(" + k + ")", x.octet(k), it);
                     seal = (3 * seal + it) % 251;
                 }
@@ -721,7 +734,8 @@ public final class EdgeCallTest {
             for (int wrong : new int[] {Integer.MIN_VALUE, -1, 5 + 6 * people, 41, Integer.MAX_VALUE}) {
                 due("octet(" + wrong + ")", x.octet(wrong), -1);
             }
-            text.append("person x").append((char) ('a' + people)).append(" at ").append(people).append(" 0 tall 1 pace 1 does a;");
+            text.append("person x").append((char) ('a' + people)).append(" at ").append(people)
+                    .append(" 0 tall 1 pace 1 does a;");
         }
         Check.square(x, NOBODY);
         due("a shorter one", x.image(), 5);
@@ -743,7 +757,7 @@ public final class EdgeCallTest {
         }
         NoonHat x = lived(TWO);
         String before = all(x);
-        String what = "on " + java.util.Arrays.toString(bytes);
+        String what = "on " + Arrays.toString(bytes);
         due(what, Check.on(x, Check.sealed(bytes)), can);
         due("the tape went, " + what, x.feed(0, 0, 0, 0, 0), 20);
         due("refused (5), " + what, x.status(5), can ? 0 : 1);
@@ -848,7 +862,7 @@ public final class EdgeCallTest {
             due("byte " + k + " otherwise", Check.on(Check.told(TWO), bytes), false);
         }
         for (int n = 0; n <= 41; n++) {
-            int[] bytes = Check.sealed(java.util.Arrays.copyOf(GOOD, n));
+            int[] bytes = Check.sealed(Arrays.copyOf(GOOD, n));
             due("so many bytes, " + (n + 1), Check.on(Check.told(TWO), bytes), n == 16);
         }
         due("no byte", Check.on(Check.told(TWO)), false);
@@ -918,6 +932,26 @@ public final class EdgeCallTest {
         }
     }
 
+    private static void calls() {
+        CHECK.sentence("An object is used for at most 512 calls after it has been made");
+        StringBuilder text = new StringBuilder("square 9 by 9 tower 4 4 high 9;law a;winds height;may wore<5;");
+        for (int p = 0; p < 6; p++) {
+            text.append("person x").append((char) ('a' + p)).append(" at ").append(p).append(" 8 tall ").append(p % 2)
+                    .append(" pace 2 does a;");
+        }
+        NoonHat x = Check.told(text.toString());
+        int[] due = {x.stand(5, 0), x.stand(5, 1), x.stand(5, 2)};
+        // some twenty calls told the square
+        for (int k = 0; k < 480; k++) {
+            due("call " + k, x.stand(5, k % 3), due[k % 3]);
+        }
+        x = new NoonHat();
+        for (int k = 1; k < 512; k++) {
+            due("undo " + k, x.undo(), false);
+        }
+        due("the 512th call", x.status(4), 511);
+    }
+
     public static void main(String[] args) {
         newObject();
         feed();
@@ -942,6 +976,7 @@ public final class EdgeCallTest {
         onPlaces();
         onWhole();
         status();
+        calls();
         CHECK.end();
     }
 }

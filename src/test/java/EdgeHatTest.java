@@ -96,7 +96,8 @@ public final class EdgeHatTest {
             "1000*1000", "9999*9999", "0-9999*9999", "0-1000*1000+1"};
         int[] due = {0, 1, 8, 0, 1, 8, 0, 1, 0, 8, 1, 0, 8, 1, 0, 8, 1, 1, 8, 0};
         for (int k = 0; k < sums.length; k++) {
-            comesTo("winds " + sums[k], Check.told(WIDE + "winds " + sums[k] + ";"), 0, 0, 4 + COLUMNS[due[k]], 4 + ROWS[due[k]]);
+            NoonHat one = Check.told(WIDE + "winds " + sums[k] + ";");
+            comesTo("winds " + sums[k], one, 0, 0, 4 + COLUMNS[due[k]], 4 + ROWS[due[k]]);
         }
         comesTo("without winds", Check.told(WIDE), 0, 0, 4, 4);
         NoonHat x = Check.told(WIDE + "winds 3;");
@@ -226,7 +227,8 @@ public final class EdgeHatTest {
                 String p = person("p", 4 + 2 * c, 4 + 2 * r, 9, 2);
                 due("free", Check.told(WIDE + p).toss(0, 0, 0), 0);
                 due(wall, Check.told(WIDE + wall + p).toss(0, 0, 0), -1);
-                due(wall + " another goes round", Check.told(WIDE + wall + person("p", 4 + 2 * c, 4 + r, 9, 2)).toss(0, 0, 0), 0);
+                String beside = person("p", 4 + 2 * c, 4 + r, 9, 2);
+                due(wall + " another goes round", Check.told(WIDE + wall + beside).toss(0, 0, 0), 0);
             }
         }
     }
@@ -453,7 +455,8 @@ public final class EdgeHatTest {
                 }
             }
         }
-        CHECK.sentence("a DRAW of 9 is the WAY of the wind; x becomes (1103515245 x + 12345) mod 2 to the 31; floor(x / 64) mod m");
+        CHECK.sentence("a DRAW of 9 is the WAY of the wind; x becomes (1103515245 x + 12345) mod 2 to the 31; "
+                + "floor(x / 64) mod m");
         String gusty = WIDE + "winds 3;gust 100;";
         int[][] where = {{6, 4}, {2, 4}, {4, 6}, {4, 2}};
         boolean[] ways = new boolean[9];

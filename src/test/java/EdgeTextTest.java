@@ -1,3 +1,4 @@
+import java.util.ArrayList;
 import java.util.List;
 
 /**
@@ -329,7 +330,9 @@ public final class EdgeTextTest {
     /** Each word of the language as a PART: it is one just where the document lists it. */
     private static void parts() {
         CHECK.sentence("PART: N; noon; height; .. in may: tall; pace; wore; terms");
-        for (String word : OWN_WORDS) {
+        List<String> words = new ArrayList<>(OWN_WORDS);
+        words.addAll(List.of("first", "last", "often", "total", "most", "least", "a", "b"));
+        for (String word : words) {
             boolean inWinds = List.of("noon", "height").contains(word);
             boolean inMay = inWinds || List.of("tall", "pace", "wore", "terms").contains(word);
             boolean opens = List.of("min", "max").contains(word);
@@ -347,8 +350,9 @@ public final class EdgeTextTest {
             }
         }
         CHECK.sentence("PART: number; column; row; tall; pace; wore; terms; noon; force; gets; spin PART; ( SUM ) ; min ; max");
-        for (String word : OWN_WORDS) {
-            boolean is = List.of("number", "column", "row", "tall", "pace", "wore", "terms", "noon", "force", "gets").contains(word);
+        for (String word : words) {
+            boolean is = List.of("number", "column", "row", "tall", "pace", "wore", "terms", "noon", "force", "gets")
+                    .contains(word);
             String call = List.of("min", "max").contains(word) ? word + "(1,1)" : word.equals("spin") ? "spin 0" : "";
             if (is || !call.isEmpty()) {
                 due("fault of total " + word, faultOfAsk("total " + (is ? word : call)), 0);
@@ -504,7 +508,8 @@ public final class EdgeTextTest {
     }
 
     private static final String[] STATEMENTS = {"square 4 by 5 tower 1 2 high 3", "law b",
-        "person p at 0 0 tall 1 pace 1 does a spin 1 force 1", "wall 3 3", "gust 5", "winds 1 + noon * 2 - ( 3 ) / min ( 4 , 5 )",
+        "person p at 0 0 tall 1 pace 1 does a spin 1 force 1", "wall 3 3", "gust 5",
+        "winds 1 + noon * 2 - ( 3 ) / min ( 4 , 5 )",
         "winds max ( 1 , 2 )", "may 1 < 2 and not all or [ tall > 3 ]", "may not [ not pace = 1 ]"};
 
     /** Behind a text that ends too soon all goes on well: it is refused at what stands there all the same. */
