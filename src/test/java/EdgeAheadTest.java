@@ -484,6 +484,16 @@ public final class EdgeAheadTest {
         due("and drifts to 2 0 at noon 2", x.wears(2), 0);
         x.noons(1);
         due("noon 2 is the next but one no more", x.wears(1), 0);
+        x = Check.told(ALONE + "may noon>999;");
+        Check.at(x, 992, -1, 0, 0);
+        Check.see(x, 0, 0, 0, 0, 0, 0, 0);
+        for (int noon = 992; noon <= 999; noon++) {
+            for (int k = 0; k < 7; k++) {
+                due("wears(" + k + ") at " + noon, x.wears(k), noon + k > 999 ? 1 : 0);
+            }
+            due("asked(0) at " + noon, x.asked(0), noon < 994 ? 0 : 1000 - noon);
+            x.noons(1);
+        }
         CHECK.sentence("PEOPLE, WORE, terms as they are now");
         x = Check.told(ALONE + "may wore<2;");
         Check.see(x, 0, 0, 0);

@@ -501,6 +501,28 @@ public final class EdgeHatTest {
                 }
             }
         }
+        CHECK.sentence("in each BEAT a DRAW of 100: without a gust, too");
+        for (int high = 1; high <= 9; high++) {
+            for (String gust : new String[] {"", "gust 0;"}) {
+                // the draws of a square without gusts show in the gusts of the next one, by the same seed
+                NoonHat x = Check.told("square 2 by 2 tower 0 0 high " + high + ";" + gust);
+                due("no gusts", x.chance(5), 0);
+                long seed = 1;
+                for (int beat = 0; beat < 5 * high; beat++) {
+                    seed = next(seed);
+                }
+                Check.square(x, "square 2 by 2 tower 0 0 high 1;gust 50;");
+                int gusts = 0;
+                for (int beat = 0; beat < 40; beat++) {
+                    seed = next(seed);
+                    if (seed / 64 % 100 < 50) {
+                        gusts++;
+                        seed = next(seed);
+                    }
+                }
+                due("gusts behind " + 5 * high + " draws", x.chance(40), gusts);
+            }
+        }
         CHECK.sentence("NOONS by the seed: else the wind is as ever");
         NoonHat x = Check.told("square 9 by 9 tower 4 4 high 1;law a;winds 3;gust 0;" + person("p", 6, 4, 0, 0));
         due("no gust", x.chance(1), 0);

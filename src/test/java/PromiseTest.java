@@ -774,7 +774,18 @@ public final class PromiseTest {
         due("b", x.has(7), 1);
     }
 
+    /** The example of README.md, as it stands there. */
+    private static void readme() {
+        NoonHat hat = new NoonHat();
+        due("20 bytes", hat.feed(0x73717561, 0x72652033, 0x20627920, 0x3320746f, 0x77657220), 20);
+        due("40 bytes", hat.feed(0x31203120, 0x68696768, 0x20313b20, 0x20202020, 0x20202020), 40);
+        due("the text's bytes", hat.end(31), true);
+        due("a statement", hat.square(), 1);
+        due("column where it comes down", hat.toss(3, 1, 2), 2);
+    }
+
     public static void main(String[] args) {
+        readme();
         promise1NewObject();
         promise2Feed();
         promise3End();

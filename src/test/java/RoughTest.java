@@ -43,7 +43,7 @@ public final class RoughTest {
             case 27: x.octet(any(r)); break;
             case 28: x.on(); break;
             case 29: x.status(any(r)); break;
-            case 30: Check.ask(x, "total gets*spin way/column"); break;
+            case 30: Check.ask(x, "total gets*spin force/column"); break;
             case 31: Check.on(x, Check.picture(x)); break;
             case 32: Check.see(x, r.nextInt(3), 255, r.nextInt(4)); break;
             default: if (r.nextInt(4) == 0) { Check.square(x, text); }
